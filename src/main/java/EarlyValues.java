@@ -616,7 +616,7 @@ public final class EarlyValues {
      * least in a row's number, so that rough rows are the document's bits.
      */
     abstract static class View {
-        /** Each round but the last changes something, and each row twice at most: 4 x 125 rows. */
+        /** Each round changes some row; 4 x 125 rows of values do so once, 4 x 64 fine ones twice. */
         static final int ROUNDS_MOST = 1000;
 
         final int base;
@@ -769,9 +769,12 @@ public final class EarlyValues {
             for (int f = 0; f < program.functions; f++) {
                 for (int row = 0; row < rowsOf(program, f); row++) {
                     int before = at(f, row);
-                    int outcome = mayGrow(before) ? comesTo(program, f, row) : before;
+                    int outcome = before;
+                    if (mayGrow(before) && handOver(program, f, row)) {
+                        outcome = bodyComesTo(program, f);
+                    }
                     coming[f][row] = (byte) outcome;
-                    changed |= outcome != before;
+                    changed = changed || outcome != before;
                 }
             }
             byte[][] behind = known;
@@ -780,18 +783,19 @@ public final class EarlyValues {
             return changed;
         }
 
-        private int comesTo(Program program, int f, int row) {
+        /** Makes the arguments ready for the body; not, if by its kind it comes to NEVER anyway. */
+        private boolean handOver(Program program, int f, int row) {
             int kind = program.kinds[f];
             int last = program.arguments[f] - 1;
             boolean eager = kind == Program.EAGER || kind == Program.TURNED;
             for (int i = 0; i <= last; i++) {
                 int argument = digits[i][row];
                 if (argument == never && (eager || kind == Program.HALF && i == 0)) {
-                    return never;
+                    return false;
                 }
                 given[kind == Program.TURNED ? last - i : i] = argument;
             }
-            return bodyComesTo(program, f);
+            return true;
         }
 
         /** From the last letter to the first, so that the parts of each stand ready on the stack. */

@@ -97,6 +97,12 @@ public final class PromiseTests {
         due("functions stay", x.count(0), 3);
         due("write", x.write('x'), 1);
         due("fault of what is written then", x.fault(), 0);
+        EarlyValues shorter = written("n0;f0,o;");
+        shorter.wipe();
+        for (char letter : "n0;f0,o".toCharArray()) {
+            shorter.write(letter);
+        }
+        due("what was wiped is not read", shorter.fault(), 3);
         EarlyValues full = written("x".repeat(201));
         due("wipe of a full text", full.wipe(), 200);
         due("write then", full.write('n'), 1);
@@ -157,12 +163,17 @@ public final class PromiseTests {
         due("fault", written("n0;f0,o;x").lay(), NO);
         due("four", written("n0123;f0,o;f0,o;f0,o;f0,o;").lay(), 4);
         EarlyValues shorter = laid("n2;f0,+ab;");
+        due("value of a text", shorter.value(0, 0, 0, 0), 0);
+        due("roughly", shorter.rough(0, 0), 0);
+        due("finely", shorter.fine(0, 0, 0, 0), 0);
         shorter.wipe();
         for (char letter : "n0;f0,i;".toCharArray()) {
             shorter.write(letter);
         }
         shorter.lay();
         due("value of a later text", shorter.value(0, 0, 0, 0), 1);
+        due("roughly", shorter.rough(0, 0), 1);
+        due("finely", shorter.fine(0, 0, 0, 0), 2);
         due("letters of a later text", shorter.letter(0, 1), BAD);
     }
 
@@ -256,6 +267,7 @@ public final class PromiseTests {
         x.put(1, 0, '2');
         x.rename(9, 2);
         due("refusals are no acts", x.count(3), 3);
+        due("value ahead", x.value(1, 2, 0, 0), 4);
         due("undo", x.undo(), 2);
         due("letter", x.letter(1, 0), '&');
         due("kind stays", x.function(1, 0), 2);
@@ -604,7 +616,7 @@ public final class PromiseTests {
         x.keep();
         x.put(1, 0, '0');
         x.write('z');
-        due("value ahead", x.value(1, 1, 0, 0), 0);
+        due("value ahead", x.value(1, 2, 0, 0), 0);
         due("back", x.back(), 1);
         dueText("as kept last", all(x), second);
         due("nothing is undone", x.undo(), NO);
